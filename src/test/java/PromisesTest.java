@@ -75,7 +75,9 @@ public final class PromisesTest {
         int[][] bad = {{0, 0}, {100, 0}, {-1, 0}, {LOW, 0}, {HIGH, 0}, {5, -1}, {5, 10}, {5, LOW}, {5, HIGH}};
         for (int[] b : bad) due("plank(" + b[0] + ", " + b[1] + ")", x.plank(b[0], b[1]), BAD);
         due("count(0)", x.count(0), 0);
+        x.hours(1);
         due("plank(1, 0)", x.plank(1, 0), 0);
+        due("count(7)", x.count(7), 0);
         x.hours(1);
         due("plank(99, 9)", x.plank(99, 9), 1);
         due("count(7)", x.count(7), 0);
@@ -192,7 +194,7 @@ public final class PromisesTest {
             }
         }
         x.hours(2);
-        x.image();
+        x.noon();
         due("read", tell(x, " 0 7 "), -21);
         due("count(0): a fault leaves all", x.count(0), 5);
         due("count(2): a fault leaves all", x.count(2), 2);
@@ -209,6 +211,9 @@ public final class PromisesTest {
         due("read", tell(x, "1"), 1);
         due("count(1)", x.count(1), 0);
         due("type", x.type('1'), 1);
+        x.read();
+        due("read", tell(x, "9-0;s9@0"), 1);
+        due("of(0, 2)", x.of(0, 2), 9);
     }
 
     private static void faults() {
@@ -276,6 +281,9 @@ public final class PromisesTest {
         due("at(0, 2): to the first of those of which most is left", x.at(0, 2), 2);
         due("at(1, 2)", x.at(1, 2), 2);
         due("at(3, 2): on none, he stays", x.at(3, 2), NONE);
+        x = noon("9-9,1;p5@0");
+        x.hours(1);
+        due("at(0, 2): to one of which 1 is left", x.at(0, 2), 1);
         x = noon("9-9,7,8,8;p5@0");
         due("at(0, 3): fallen", x.at(0, 3), 0);
         x.hours(1);
@@ -368,11 +376,33 @@ public final class PromisesTest {
         due("seed: 31 bits", x.seed(0), (int) ((2147483647L * 1103515245L + 12345L) % 2147483648L));
         x.plank(5, 5);
         due("drift(2) of planks alone", x.drift(2), 0);
+        x.sawyer(0, 1);
+        due("drift(1) of one and one", x.drift(1), 0);
+        due("at(0, 2)", x.at(0, 2), 0);
+        x.undo();
+        // 65535 more than 2 times 65536, by a seed that leads there; by 128 it is 1535.
+        x = noon("90,90,90,90;p5,p4,p3,p2,p1");
+        x.seed(seedFor(3 * 65536 - 1));
+        x.drift(1);
+        due("seed", x.seed(0), 3 * 65536 - 1);
+        for (int s = 0; s < 5; s++) due("at(" + s + ", 2)", x.at(s, 2), s == 2 ? 3 : NONE);
+        x.seed(seedFor(3 * 65536));
+        x.drift(1);
+        due("at(3, 2)", x.at(3, 2), 0);
+        x = noon("5");
+        x.hours(5);
         for (int i = 0; i < 248; i++) x.hours(40);
         due("count(2)", x.count(2), 9925);
         x.drift(40);
         due("drift(40)", x.drift(40), FULL);
         due("drift(34)", x.drift(34), 0);
+    }
+
+    /** What is drawn ahead of a draw: the one number of 31 bits by which that one comes next. */
+    private static int seedFor(int draw) {
+        int inverse = 1;
+        for (int i = 0; i < 5; i++) inverse *= 2 - 1103515245 * inverse;
+        return (draw - 12345) * inverse & HIGH;
     }
 
     private static void undo() {
@@ -487,11 +517,16 @@ public final class PromisesTest {
         due("noon() of fallen ones", noon("5-5,6-6;p9").noon(), 0);
         due("noon()", noon("10,20;p5@0").noon(), 7);
         due("noon(): nobody sits", noon("10;p5").noon(), NONE);
+        due("noon(): the 59th", noon("59%1;o0@0").noon(), 59);
         due("noon(): the 60th", noon("60%1;o0@0").noon(), 60);
         due("noon(): the 61st", noon("61%1;o0@0").noon(), NONE);
         // A hopper who does nothing in hour 0 is not at the end.
         due("noon(): hopped", noon("3%1;h0@0").noon(), 4);
         due("noon(): hopped twice", noon("4%1;h0@0").noon(), 6);
+        NoonSaws x = noon("10,20;p5@0");
+        x.hours(2);
+        due("noon(): from now", x.noon(), 5);
+        due("count(2): nothing is changed", x.count(2), 2);
     }
 
     private static void best() {
@@ -506,6 +541,11 @@ public final class PromisesTest {
         due("best(-1): no planks", x.best(-1), NONE);
         due("best(0): no planks", x.best(0), NONE);
         due("best(1)", x.best(1), BAD);
+
+        x.plank(9, 0);
+        x.plank(5, 0);
+        due("best(-1)", x.best(-1), 3);
+        due("best(0): 5 first, or 9 first", x.best(0), 0);
 
         // 9 and 6: each on his own, both fall at once; 9 on 0 and 6 on 1.
         x = noon("9,6;p6@0,p9@1");
@@ -546,6 +586,28 @@ public final class PromisesTest {
         // A fallen plank is one to be set on, too: he goes on from there as well as any.
         x = noon("5-5,9;p0@0");
         due("best(0)", x.best(0), 0);
+        // Twice by both of the green, at the edges.
+        x = noon("8,8;g4@0,g4@0");
+        due("best(-1)", x.best(-1), 1);
+        due("best(-2)", x.best(-2), 1);
+        due("best(0)", x.best(0), 0);
+        x.soak(1, 1);
+        due("best(-1): soaked", x.best(-1), 2);
+        x.hours(1);
+        due("best(-1): an hour later", x.best(-1), 1);
+        x.restore();
+        tell(x, "8;g4");
+        due("best(-1): another noon", x.best(-1), 1);
+        tell(x, "9;g4");
+        due("best(-1): thicker", x.best(-1), 2);
+        tell(x, "9%2;g4");
+        due("best(-1): knottier", x.best(-1), 2);
+        tell(x, "9%2;o4");
+        due("best(-1): another kind", x.best(-1), 2);
+        tell(x, "9%2;p4");
+        due("best(-1): another kind", x.best(-1), 3);
+        tell(x, "9%4;p4");
+        due("best(-1): knottier", x.best(-1), 6);
         due("best(-1): the 60th", noon("60%1;o0").best(-1), 60);
         due("best(-1): the 61st", noon("61%1;o0").best(-1), NONE);
     }
@@ -621,6 +683,7 @@ public final class PromisesTest {
         due("thickest(0, 1)", x.thickest(0, 1), 4);
         due("thickest(0, 4)", x.thickest(0, 4), 15);
         due("thickest(1, 1)", x.thickest(1, 1), 0);
+        due("thickest(0, 1)", noon("9;p1@0").thickest(0, 1), 1);
         due("thickest(2, 1): a fallen one, he comes too late", x.thickest(2, 1), 0);
         due("of(0, 2): nothing is changed", x.of(0, 2), 20);
         x = noon("50;g9@0");
@@ -708,6 +771,14 @@ public final class PromisesTest {
         due("count(4)", x.count(4), 60);
         due("count(7)", x.count(7), 3);
         due("drop(0)", x.drop(0), NULL);
+        x.hours(20);
+        x.image();
+        x.drift(20);
+        x.restore();
+        for (int n = 7; n >= 0; n--) {
+            due("undo()", x.undo(), n);
+            due("count(2)", x.count(2), 14 + n);
+        }
     }
 
     private static void dust() {
@@ -758,6 +829,7 @@ public final class PromisesTest {
         }
         due("of(0, 2): nothing is changed", x.of(0, 2), 40);
         due("count(2)", x.count(2), 0);
+        due("film of 1", x.film(1, 1, 0, 0, 23), 1);
         x.sheet(0, 0, 5);
         due("INDEX", x.film(0, 3, 0, 0, 3), INDEX);
         due("INDEX", x.film(0, 3, 0, 0, -1), INDEX);
@@ -816,7 +888,8 @@ public final class PromisesTest {
             }
             x.item(0, lane, 1, 40 - 128);
             due("dust", x.dust(0, 0, 0, lane, 1, 1, 0), 0);
-            due("item(0, lane, 0, -1)", x.item(0, lane, 0, Long.MIN_VALUE), 1);
+            due("item, the first", x.item(0, lane, 0, Long.MIN_VALUE), 1);
+            due("item, the last", x.item(0, lane, 2, Long.MAX_VALUE), 1);
             for (int i : new int[] {-1, 3, LOW, HIGH}) due("INDEX", x.item(0, lane, i, 1), INDEX);
             for (int other = 0; other < 4; other++) {
                 if (other != lane) due("CAST", x.item(0, other, 9, 1), CAST);
