@@ -11,6 +11,7 @@ public final class NoonSaws {
     private static final int FORESIGHT = 60;
     /** The worth of a NOON that does not come: it is later than any that does. */
     private static final int LATE = FORESIGHT + 1;
+    private static final int LOWEST_31_BITS = 0x7fffffff;
     private static final int SHEETS = 4;
     private static final int LANES = 4;
     private static final int SHEET_ITEMS = 24;
@@ -731,7 +732,7 @@ public final class NoonSaws {
         }
 
         void drawAndSet() {
-            draw = (draw * 1103515245 + 12345) & Integer.MAX_VALUE;
+            draw = (draw * 1103515245 + 12345) & LOWEST_31_BITS;
             if (planks > 0 && sawyers > 0) {
                 seat[draw / 65536 % sawyers] = draw / 128 % planks;
             }
@@ -1000,11 +1001,12 @@ public final class NoonSaws {
 
         /** A number; -1, and the place is at its first digit, if there is none or it is not as told. */
         private int takeNumber(int low, int high) {
-            int value = takeDigit(9);
+            int value = valueOf(nextLetter());
             if (value < 0) {
                 return -1;
             }
-            int first = place - 1;
+            int first = place;
+            place++;
             int second = valueOf(letterHere());
             if (second >= 0) {
                 place++;
