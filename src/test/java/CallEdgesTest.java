@@ -290,6 +290,16 @@ public final class CallEdgesTest {
             "tell 9;p9,p9 = 1", "best -3 = BAD", "best NONE = BAD", "best LOW = BAD", "best HIGH = BAD", "best 1 = 0", "best 2 = BAD");
         says("NONE: there are no SAWYERS, PLANKS; BAD: no such one",
             "best -3 = BAD", "best 0 = BAD", "best -1 = NONE", "sawyer 0 1 = 0", "best 0 = NONE", "best 1 = BAD", "best -3 = BAD");
+        says("asked again when one PLANK, one SAWYER more is there",
+            "tell 9;p9 = 1", "best -1 = 1", "plank 9 0 = 1", "best -1 = 2", "sawyer 0 9 = 1", "best -1 = 1");
+        says("asked again in another HOUR",
+            "tell 9;h9 = 1", "best -1 = 2", "hours 1 = 0", "best -1 = 1", "undo = 0", "best -1 = 2");
+        says("asked again of a NOON that is otherwise by how THICK, KNOTTY it is, by what is LEFT",
+            "tell 12;g6 = 1", "best -1 = 1", "tell 13-1;g6 = 1", "best -1 = 2", "tell 9;p9 = 1", "best -1 = 1", "tell 9%9;p9 = 1", "best -1 = 2",
+            "soak 0 2 = 11", "best -1 = 3");
+        says("asked again of a NOON that is otherwise by KIND, TEETH, by who SITS where",
+            "tell 9%9;p9 = 1", "best -1 = 2", "tell 9%9;g9 = 1", "best -1 = 1", "best -2 = 1", "set 0 0 = NONE", "best -2 = 0", "tell 9;p8 = 1",
+            "best -1 = 2", "sharpen 0 1 = 9", "best -1 = 1");
         says("asked again when all is otherwise",
             "tell 9,5;p9@0,p5@1 = 2", "best -1 = 1", "best -2 = 0", "set 0 1 = 0", "best -2 = 1", "sharpen 1 4 = 9", "best -2 = 1", "best 0 = 0",
             "best 1 = 1", "undo = 1", "best -2 = 1", "soak 1 5 = 10", "best -1 = 2", "hours 1", "best -1 = 1", "undo = 2", "best -1 = 2");
@@ -303,6 +313,8 @@ public final class CallEdgesTest {
         says("n HOURS (1 .. 30)",
             "tell 9;p9@0 = 1", "most 0 0 = BAD", "most -1 0 = BAD", "most 31 0 = BAD", "most LOW 0 = BAD", "most HIGH 0 = BAD", "most 1 0 = 0",
             "most 30 0 = 0", "most 30 -1 = 1");
+        says("asked again for more HOURS, for fewer, of another",
+            "tell 9;p5 = 1", "most 1 -1 = 0", "most 2 -1 = 1", "most 1 -1 = 0", "sharpen 0 4 = 9", "most 1 -1 = 1", "best -1 = 1", "most 1 -1 = 1");
         says("none FALLEN, all FALLEN",
             "tell 99,99,99,99,99;p1@4 = 5", "most 30 -1 = 0", "most 30 -2 = 0", "most 30 0 = 4", "tell 1,1,1,1,1;p1,p1,p1,p1,p1 = 5", "most 1 -1 = 5",
             "most 1 -2 = 5", "most 1 4 = 4");
@@ -341,7 +353,8 @@ public final class CallEdgesTest {
         says("above (what 0), below (1). BAD",
             "tell 9,9;p9@0 = 2", "hops 0 3 -1 = BAD", "hops 0 3 0 = 7", "hops 0 3 1 = 10", "hops 0 3 2 = BAD", "hops 0 3 LOW = BAD",
             "hops 0 3 HIGH = BAD", "hops -1 3 0 = BAD", "hops 1 3 0 = 0", "hops 1 3 1 = 1", "hops 2 3 0 = BAD", "hops LOW 3 0 = BAD",
-            "hops HIGH 3 0 = BAD", "hops 0 -1 0 = BAD", "hops 0 0 0 = 1", "hops 0 10 0 = 0", "hops 0 11 0 = BAD");
+            "hops HIGH 3 0 = BAD", "hops 0 -1 0 = BAD", "hops 0 -1 1 = BAD", "hops 0 0 0 = 1", "hops 0 10 0 = 0", "hops 0 11 0 = BAD",
+            "hops 0 11 1 = BAD");
     }
 
     private static void image() {
@@ -361,8 +374,9 @@ public final class CallEdgesTest {
             "restore = NONE", "plank 9 0 = 0", "hours 1 = 0", "restore = NONE", "count 2 = 1");
         says("All is as it was then: 1",
             "tell 20%2,9;p5@0,h4 = 2", "seed 9 = 1", "hours 9 = 3", "image = 1", "tell 5;g1 = 1", "4 * plank 1 1", "4 * sawyer 4 4",
-            "seed 10 = 9", "drift 3", "restore = 1", "count 0 = 2", "count 1 = 2", "of 0 1 = 2", "at 1 0 = 3", "count 2 = 9", "count 7 = 8",
-            "seed 9 = 9", "undo = 7", "7 * undo", "count 2 = 1", "undo = NONE");
+            "seed 10 = 9", "drift 9", "restore = 1", "count 0 = 2", "count 1 = 2", "of 0 1 = 2", "at 1 0 = 3", "count 2 = 9", "count 7 = 8",
+            "seed 9 = 9", "undo = 7", "count 2 = 8", "undo = 6", "count 2 = 7", "undo = 5", "count 2 = 6", "undo = 4", "count 2 = 5", "undo = 3",
+            "count 2 = 4", "undo = 2", "count 2 = 3", "undo = 1", "count 2 = 2", "undo = 0", "count 2 = 1", "of 0 2 = 16", "undo = NONE");
         says("once more, and once more",
             "plank 9 0 = 0", "hours 1 = 0", "image = 1", "undo = 0", "restore = 1", "count 2 = 1", "undo = 0", "count 2 = 0", "restore = 1", "count 7 = 1",
             "count 2 = 1");

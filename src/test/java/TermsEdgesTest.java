@@ -117,7 +117,7 @@ public final class TermsEdgesTest {
             "at 3 3 = 5", "at 4 3 = 5");
         says("PLAIN: (0 at least)",
             "tell 50%9;p0@0,p3@0,p4@0,p5@0 = 1", "at 0 3 = 0", "at 1 3 = 0", "at 2 3 = 0", "at 3 3 = 1", "hours 1 = 0",
-            "of 0 2 = 49");
+            "of 0 2 = 49", "tell 50%8,9%8;p3@0,p4@0,p5@0,g3@1,s3@1 = 2", "at 0 3 = 0", "at 1 3 = 0", "at 2 3 = 1", "at 3 3 = 0", "at 4 3 = 0");
         says("OLD: as much more as it is KNOTTY, but 3 more at most",
             "tell 50,50%1,50%2,50%3,50%4;o5@0,o5@1,o5@2,o5@3,o5@4 = 5", "at 0 3 = 5", "at 1 3 = 6", "at 2 3 = 6",
             "at 3 3 = 7", "at 4 3 = 6");
@@ -240,6 +240,9 @@ public final class TermsEdgesTest {
         says("NOON: the first of 0 to 60 HOURS behind which all are FALLEN",
             "noon = 0", "tell 9-9 = 1", "noon = 0", "tell 9-8 = 1", "noon = NONE", "tell 1;p1@0 = 1", "noon = 1",
             "tell 60%1,59%1;o0@0,o0@1 = 2", "noon = 60");
+        // In HOUR 1 nobody CUTS, but he goes elsewhere.
+        says("NOON: also if there is an HOUR in which nothing is CUT",
+            "tell 9-9,9;p9 = 2", "hours 1 = 1", "set 0 0 = NONE", "noon = 2", "falls 1 = 2", "tell 9;h9@0 = 1", "noon = 2", "falls 0 = 2");
         says("NOON: none",
             "tell 61%1,1%1;o0@0,o0@1 = 2", "noon = 31", "tell 61%1;o0@0 = 1", "noon = NONE", "hours 1 = 0", "noon = 60");
     }
@@ -249,6 +252,12 @@ public final class TermsEdgesTest {
         says("BEST: NOON is first (none is later than any)",
             "tell 60%1,9-9;o0@1 = 2", "noon = NONE", "best -1 = 60", "best -2 = 1", "best 0 = 0", "soak 0 1 = 61", "best -1 = NONE",
             "best -2 = 0", "best 0 = 1");
+        says("BEST: none: also if it would be but 1 or 2 HOURS later",
+            "tell 61%1;o0 = 1", "best -1 = NONE", "soak 0 1 = 62", "best -1 = NONE", "soak 0 1 = 63", "best -1 = NONE", "best 0 = 0");
+        // On the FALLEN one he comes an HOUR late; at the edge he takes 18 at once.
+        says("BEST: NOON is first: as all would CUT at most",
+            "tell 5-5,18;g9 = 2", "best -1 = 1", "best 0 = 1", "tell 5-5,12%2;h9 = 2", "hours 1 = 1", "best -1 = 2", "best 0 = 1",
+            "tell 5-5,10%2;h9 = 2", "hours 1 = 1", "best -1 = 1", "best 0 = 1");
         says("BEST: NOON is first: 0, if all are FALLEN",
             "tell 9-9,9-9;p1@1,p1@0 = 2", "best -1 = 0", "best -2 = 0", "best 0 = 1", "best 1 = 0");
         says("BEST: of like ones so that fewest are SET otherwise than they SIT",
@@ -328,8 +337,8 @@ public final class TermsEdgesTest {
 
     private static void hops() {
         says("HOPS by c of 10 (0 .. 10)",
-            "tell 5;p5@0 = 1", "hops 0 -1 0 = BAD", "hops 0 11 0 = BAD", "hops 0 LOW 0 = BAD", "hops 0 HIGH 0 = BAD", "hops 0 0 0 = 1",
-            "hops 0 0 1 = 1", "hops 0 1 0 = 9", "hops 0 1 1 = 10", "hops 0 9 0 = 1", "hops 0 9 1 = 10", "hops 0 10 0 = 0",
+            "tell 5;p5@0 = 1", "hops 0 -1 0 = BAD", "hops 0 -1 1 = BAD", "hops 0 11 0 = BAD", "hops 0 11 1 = BAD", "hops 0 LOW 0 = BAD",
+            "hops 0 HIGH 0 = BAD", "hops 0 LOW 1 = BAD", "hops 0 HIGH 1 = BAD", "hops 0 0 0 = 1", "hops 0 0 1 = 1", "hops 0 1 0 = 9", "hops 0 1 1 = 10", "hops 0 9 0 = 1", "hops 0 9 1 = 10", "hops 0 10 0 = 0",
             "hops 0 10 1 = 1");
         says("HOPS: a PLANK is FALLEN behind it: by as much as is LEFT, not by 1 less",
             "tell 10,11;p5@0,p5@0,p5@1,p5@1 = 2", "hops 0 5 0 = 1", "hops 0 5 1 = 4", "hops 1 5 0 = 0", "hops 1 5 1 = 1");
@@ -426,9 +435,31 @@ public final class TermsEdgesTest {
         says("the SAWYER that it is by 65536, left over by how many there are, on the PLANK that it is by 128, left over by how many",
             "tell 9,9,9,9,9;p0,p0,p0,p0,p0 = 5", "drift 1 = 0", "at 3 2 = 4", "count 6 = 23", "seed 1", "tell 9,9,9,9;p0,p0,p0 = 4",
             "drift 1 = 0", "at 2 2 = 1", "count 6 = 3", "seed 1", "tell 9,9,9;p0,p0 = 3", "drift 1 = 0", "at 0 2 = 2", "count 6 = 2");
+        drawnAt(2 * 65536 - 1, 1, 3);
+        drawnAt(2 * 65536, 2, 0);
+        drawnAt(127, 0, 0);
+        drawnAt(128, 0, 1);
+        drawnAt(255, 0, 1);
+        // By 65536 it is 32767, by 128 16777215.
+        drawnAt(Integer.MAX_VALUE, 2, 3);
+        drawnAt(0, 0, 0);
         says("is SET: also if he SITS there as it is, and on one that is FALLEN, from which he goes on",
             "tell 9-9;p5@0 = 1", "drift 1 = 1", "at 0 2 = 0", "count 7 = 1", "seed 1", "tell 9-9,9;p5 = 2", "seed 0", "drift 1 = 1",
             "at 0 2 = 1", "of 1 2 = 9");
+    }
+
+    /** Of 5 SAWYERS, 4 PLANKS: who is SET where when THE DRAW becomes this one. */
+    private static void drawnAt(int draw, int sawyer, int plank) {
+        says("What is divided is cut: THE DRAW becomes " + draw,
+            "tell 9,9,9,9;p0,p0,p0,p0,p0 = 4", "seed " + seedFor(draw) + " = 1", "drift 1 = 0", "at " + sawyer + " 2 = " + plank,
+            "count 6 = " + (31 - (1 << sawyer)), "seed 1 = " + draw);
+    }
+
+    /** The one number of 31 bits behind which THE DRAW becomes this one. */
+    private static int seedFor(int draw) {
+        int inverse = 1;
+        for (int i = 0; i < 5; i++) inverse *= 2 - 1103515245 * inverse;
+        return (draw - 12345) * inverse & Integer.MAX_VALUE;
     }
 
     private static void textPlanks() {
